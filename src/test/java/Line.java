@@ -1,0 +1,66 @@
+/** An object and what tests do with it again and again. */
+final class Line {
+    final RecordCalls x = new RecordCalls();
+
+    /** The tape has these bytes and no others. */
+    void tape(byte... bytes) {
+        x.end(0);
+        for (int i = 0; i < bytes.length; i += 20) {
+            x.feed(word(bytes, i), word(bytes, i + 4), word(bytes, i + 8), word(bytes, i + 12), word(bytes, i + 16));
+        }
+        x.end(bytes.length);
+    }
+
+    void tape(String text) {
+        tape(text.getBytes(java.nio.charset.StandardCharsets.ISO_8859_1));
+    }
+
+    int slot(byte... bytes) {
+        tape(bytes);
+        return x.raw();
+    }
+
+    /** Pushes bytes into a connection: how many replies there were. */
+    int push(int connection, byte... bytes) {
+        return x.push(connection, slot(bytes), 0, bytes.length);
+    }
+
+    byte[] bytes(int slot) {
+        byte[] all = new byte[x.length(slot)];
+        for (int i = 0; i < all.length; i++) {
+            all[i] = (byte) x.byteAt(slot, i);
+        }
+        return all;
+    }
+
+    byte[] latest() {
+        return bytes(x.count(0) - 1);
+    }
+
+    /** The reply to a record that is pushed whole, without its fragment's word; null without one. */
+    byte[] send(int connection, Message record) {
+        if (push(connection, record.fragment()) != 1) {
+            return null;
+        }
+        byte[] all = latest();
+        return java.util.Arrays.copyOfRange(all, 4, all.length);
+    }
+
+    long value(String key) {
+        tape(key);
+        return x.value();
+    }
+
+    boolean has(String key) {
+        tape(key);
+        return x.has();
+    }
+
+    private static int word(byte[] bytes, int i) {
+        int w = 0;
+        for (int k = i; k < i + 4; k++) {
+            w = w << 8 | (k < bytes.length ? bytes[k] & 255 : 0);
+        }
+        return w;
+    }
+}
