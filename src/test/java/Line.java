@@ -26,11 +26,16 @@ final class Line {
     }
 
     byte[] bytes(int slot) {
-        byte[] all = new byte[x.length(slot)];
-        for (int i = 0; i < all.length; i++) {
-            all[i] = (byte) x.byteAt(slot, i);
+        Message all = new Message();
+        int size = x.length(slot);
+        // By words where it can be: an object has no more than 512 calls.
+        for (int i = 0; i < size / 4; i++) {
+            all.words(x.word(slot, 4 * i));
         }
-        return all;
+        for (int i = size / 4 * 4; i < size; i++) {
+            all.plain((byte) x.byteAt(slot, i));
+        }
+        return all.bytes();
     }
 
     byte[] latest() {

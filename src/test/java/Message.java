@@ -11,10 +11,6 @@ final class Message {
         return new Message().words(number, 0, 2, PROGRAM, version, procedure, 0, 0, 0, 0);
     }
 
-    static byte[] words(byte[] front, int... words) {
-        return new Message().plain(front).words(words).bytes();
-    }
-
     Message words(int... words) {
         for (int w : words) {
             out.write(w >>> 24);

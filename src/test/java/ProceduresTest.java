@@ -30,7 +30,7 @@ public final class ProceduresTest {
     }
 
     private static void put(Line line, String key, long value) {
-        line.send(0, call(1, 1).key(key).longOne(value));
+        line.push(0, call(1, 1).key(key).longOne(value).fragment());
     }
 
     private static void set() {

@@ -152,9 +152,10 @@ public final class ServerTest {
         check.same("whatever it says", line.send(0, new Message().words(7, 0)), first);
         check.same("whatever it says more", line.send(0, new Message().words(7, 0, 9, 9)), first);
         check.same("not a call", line.send(0, new Message().words(7, 1)), null);
+        check.same("less than two words", line.send(0, new Message().words(7).zeros(3)), null);
         check.same("repeated", line.x.count(3), 3);
         check.same("done", line.x.count(2), 1);
-        check.same("bad", line.x.count(4), 1);
+        check.same("bad", line.x.count(4), 2);
         check.same("another connection", line.send(1, Message.call(7, 1, 1).key("k").longOne(6)),
                 accepted(7, 0, 0, 1, 0, 5));
         check.same("another number", line.send(0, Message.call(8, 1, 2).key("k")), accepted(8, 0, 0, 0, 6));
