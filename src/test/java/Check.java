@@ -1,11 +1,27 @@
 /** Counts what is not as due; a test ends with exit code 1 if anything was not. */
 final class Check {
     private final String test;
+    private String sentence = "";
     private int looks = 0;
     private int wrong = 0;
 
     Check(String test) {
         this.test = test;
+    }
+
+    /** A sentence of the document and its own test; an exception there does not keep the others from being run. */
+    void sentence(String text, Runnable ownTest) {
+        sentence = " [" + text + "]";
+        int before = looks;
+        try {
+            ownTest.run();
+        } catch (RuntimeException e) {
+            tell("threw " + e + " at " + e.getStackTrace()[0]);
+        }
+        if (looks == before) {
+            tell("looked at nothing");
+        }
+        sentence = "";
     }
 
     void same(String what, long got, long due) {
@@ -50,7 +66,7 @@ final class Check {
     private void tell(String text) {
         wrong++;
         if (wrong <= 20) {
-            System.out.println(test + ": " + text);
+            System.out.println(test + sentence + ": " + text);
         }
     }
 }

@@ -51,6 +51,19 @@ final class Line {
         return java.util.Arrays.copyOfRange(all, 4, all.length);
     }
 
+    /** What the reply to a record says, -1 when there is none. */
+    int saidTo(int connection, Message record) {
+        int number = record.firstWord();
+        return push(connection, record.fragment()) == 1 ? x.says(x.count(0) - 1, number) : -1;
+    }
+
+    /** The key has that value, by a call with that number. */
+    void set(int connection, int number, String key, long value) {
+        tape(key);
+        int call = x.call(number, 1, 1, true, value);
+        x.push(connection, call, 0, x.length(call));
+    }
+
     long value(String key) {
         tape(key);
         return x.value();

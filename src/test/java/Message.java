@@ -11,6 +11,15 @@ final class Message {
         return new Message().words(number, 0, 2, PROGRAM, version, procedure, 0, 0, 0, 0);
     }
 
+    /** A reply with a code, up to what belongs to it. */
+    static Message accepted(int number, int code) {
+        return new Message().words(number, 1, 0, 0, 0, code);
+    }
+
+    static Message refused(int number, int... rest) {
+        return new Message().words(number, 1, 1).words(rest);
+    }
+
     Message words(int... words) {
         for (int w : words) {
             out.write(w >>> 24);
@@ -45,6 +54,11 @@ final class Message {
 
     byte[] bytes() {
         return out.toByteArray();
+    }
+
+    /** 0 when it is not all there. */
+    int firstWord() {
+        return out.size() < 4 ? 0 : java.nio.ByteBuffer.wrap(bytes()).getInt();
     }
 
     /** As one record of one fragment. */

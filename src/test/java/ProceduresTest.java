@@ -30,7 +30,8 @@ public final class ProceduresTest {
     }
 
     private static void put(Line line, String key, long value) {
-        line.push(0, call(1, 1).key(key).longOne(value).fragment());
+        number++;
+        line.set(0, number, key, value);
     }
 
     private static void set() {
@@ -106,16 +107,22 @@ public final class ProceduresTest {
         gives("from behind it", line, call(2, 5).words(4, 0), given().words(0, 0));
     }
 
-    private static void listEdges() {
+    private static Line withNine() {
         Line line = new Line();
         for (int i = 0; i < 9; i++) {
             put(line, "" + i, i);
         }
+        return line;
+    }
+
+    private static void listEdges() {
+        Line line = withNine();
         gives("without a sign: from", line, call(2, 5).words(-1, 1), given().words(0, 0));
         gives("without a sign: lowest from", line, call(2, 5).words(Integer.MIN_VALUE, -1), given().words(0, 0));
         gives("without a sign: highest from", line, call(2, 5).words(Integer.MAX_VALUE, -1), given().words(0, 0));
         gives("from the ninth", line, call(2, 5).words(8, -1), given().words(1).key("8").longOne(8).words(0));
         for (int most : new int[] {8, 9, 100, -1, Integer.MIN_VALUE, Integer.MAX_VALUE}) {
+            line = withNine();
             for (int from = 0; from <= 1; from++) {
                 Message record = call(2, 5).words(from, most);
                 Message due = given().words(8);
