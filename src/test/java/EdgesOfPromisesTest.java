@@ -261,7 +261,7 @@ public final class EdgesOfPromisesTest {
         int empty = x.raw();
         int[][] wrong = {{0, 45}, {1, 44}, {43, 2}, {44, 1}, {45, 1}, {-1, 1}, {-1, 45}, {-44, 44}, {0, -1}, {44, -1},
             {1, -1}, {0, HIGHEST}, {1, HIGHEST}, {HIGHEST, 1}, {HIGHEST, HIGHEST}, {0, LOWEST}, {LOWEST, 1},
-            {LOWEST, LOWEST}, {LOWEST, HIGHEST}, {HIGHEST, LOWEST}, {-1, HIGHEST}};
+            {LOWEST, LOWEST}, {LOWEST, HIGHEST}, {HIGHEST, LOWEST}, {-1, HIGHEST}, {45, 0}, {-1, 0}, {HIGHEST, 0}};
         for (int[] w : wrong) {
             check.fails("push " + java.util.Arrays.toString(w), IndexOutOfBoundsException.class,
                     () -> x.push(0, slot, w[0], w[1]));
