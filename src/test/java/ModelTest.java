@@ -69,6 +69,11 @@ public final class ModelTest {
     }
 
     private void step() {
+        if (keys > 40 && calls < 250) {
+            tape(manySets());
+            pushSlot(raw());
+            return;
+        }
         switch (below(10)) {
             case 0:
             case 1:
@@ -218,6 +223,15 @@ public final class ModelTest {
                 record.longOne(random.nextLong());
             }
         }
+    }
+
+    /** Enough of them at once that the map of a run with many keys gets full. */
+    private byte[] manySets() {
+        Message all = new Message();
+        for (int i = 0; i < 22; i++) {
+            all.plain(Message.call(random.nextInt(), 1, 1).key(key()).longOne(random.nextLong()).fragment());
+        }
+        return all.bytes();
     }
 
     private byte[] manyRecords() {
