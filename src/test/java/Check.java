@@ -35,6 +35,13 @@ final class Check {
         same(what, got ? 1 : 0, due ? 1 : 0);
     }
 
+    void same(String what, String got, String due) {
+        looks++;
+        if (!due.equals(got)) {
+            tell(what + " is " + got + ", due is " + due);
+        }
+    }
+
     void same(String what, byte[] got, byte[] due) {
         looks++;
         if (!java.util.Arrays.equals(got, due)) {
